@@ -44,6 +44,7 @@ public final class ProgramTest {
         ends("i-2147483648 i2147483647 < r", "i1");
         ends("i2147483647 i0 + r", "i2147483647");
         ends("i2147483647 i1 + r", "f2.147483648E9");
+        ends("i-2147483647 i1 - r", "i-2147483648");
         ends("i-2147483648 i1 - r", "f-2.147483649E9");
         ends("i46341 u * r", "f2.147488281E9");
         ends("i46340 u * r", "i2147395600");
@@ -59,6 +60,9 @@ public final class ProgramTest {
         ends(HALF + "r", "f0.5");
         ends("i3 " + HALF + "< r", "i0");
         ends(HALF + "i3 < r", "i1");
+        ends(HALF + HALF + "< r", "i0");
+        ends("i0 " + MINUS_ZERO + "< r", "i0");
+        ends(ENDLESS + "u < r", "i0");
         ends(MINUS_ZERO + "r", "f-0.0");
         ends("i1 " + MINUS_ZERO + "/ r", "f-Infinity");
         ends(HALF + "i0 / r", "fInfinity");
@@ -201,6 +205,9 @@ public final class ProgramTest {
         x.run(4, 0);
         Bench.due("a method gets the object", Bench.ending(x), "i4");
         Bench.due("a method gets nothing else", Bench.told(x), "n0");
+        Tracewheel z = Bench.machine(0, "1: c1 d i9 l0 c2 r", "0: l0 t l5 t i5 s0 i6 s5 i1 r", "2: l0 t l1 t l2 t l5 t c1 r");
+        z.run(0, 4);
+        Bench.due("the other locals are nothing at first", Bench.told(z), "n0 n0 i9 i4 n0 n0 n0 n0");
         Tracewheel y = Bench.machine(0, "2: l0 t l1 r");
         y.run(0, 3);
         Bench.due("the other parameters of the first frame", Bench.told(y) + " " + Bench.ending(y), "i3 n0");

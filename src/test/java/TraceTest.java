@@ -11,6 +11,7 @@ public final class TraceTest {
         thirtySteps();
         brokenOffByOtherHeads();
         brokenOffByTheSameHeadInAnotherFrame();
+        brokenOffByReturning();
         brokenOffByFailure();
         guardsOfTwoValues();
         guardsOfOne();
@@ -71,6 +72,10 @@ public final class TraceTest {
         z.setLimits(50, 1, 10);
         z.run(0, 0);
         Bench.due("a jump to itself", Bench.lines(z, 0) + " " + z.counter(0, 0), "0 50");
+        Tracewheel w = Bench.machine(0, "1: i0 i0 i0 z3");
+        w.setLimits(50, 1, 10);
+        w.run(0, 0);
+        Bench.due("a 'z' that goes to itself", w.counter(0, 3) + " " + Bench.ending(w), "3 xs3");
     }
 
     private static void limitsOfHeads() {
@@ -129,6 +134,16 @@ public final class TraceTest {
         x.setLimits(5, 2, 80);
         x.run(0, 1);
         Bench.due("the same head in another frame", x.traces() + " " + head(x, 0, 2), "0 14 barred");
+    }
+
+    /** A later call makes a frame at the same depth, but it is another one. */
+    private static void brokenOffByReturning() {
+        Tracewheel x = Bench.machine(0, "1:", "1: l0 z5 i0 s0 j0 i1 r");
+        Bench.write(x, 0, "l0 c1 d l0 c1 d l0 c1 d l0 c1 d i1 r");
+        x.run(0, 1);
+        Bench.due("broken off by the end of the frame", x.traces() + " " + head(x, 1, 0), "0 1");
+        x.run(0, 1);
+        Bench.due("broken off twice by the end of the frame", x.traces() + " " + head(x, 1, 0), "0 2 barred");
     }
 
     private static void brokenOffByFailure() {
@@ -306,6 +321,19 @@ public final class TraceTest {
         Bench.due("a side trace that the run's end breaks off", x.traces(), 1);
         Bench.due("the exits go on", x.exits(0, 2), 8);
         Bench.due("only the first jump of a run is outside", x.begun(0), 5 + 7 * 8);
+        Tracewheel y = Bench.machine(0, "1: l0 i2 % z5 j9 i1 k3 / d l0 i1 - u s0 z16 j0 l0 r");
+        y.setHandler(0, 9);
+        y.run(0, 10);
+        Bench.due("broken off by a failure", y.traces() + " " + y.exits(0, 1), "1 3");
+        Bench.due("no tree has a step with the cell", y.setCell(3, 1), 0);
+        y.run(0, 9);
+        Bench.due("broken off once", y.traces(), 2);
+        Tracewheel z = Bench.machine(0, "1: l0 i2 % z5 j9 i1 k3 / d l0 i1 - u s0 z16 j0 l0 r");
+        z.setHandler(0, 9);
+        z.run(0, 20);
+        z.setCell(3, 1);
+        z.run(0, 20);
+        Bench.due("broken off twice", z.traces(), 1);
     }
 
     private static void tracesWithoutEnd() {
