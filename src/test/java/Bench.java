@@ -3,8 +3,12 @@ import java.util.List;
 
 /** What the tests of the promises share: a short way to write programs, and the counting of wrong answers. */
 final class Bench {
+    static final int[] FAR = {Integer.MIN_VALUE, Integer.MAX_VALUE, -256, 256, 65536, -65536};
+
     private static int asked;
     private static int wrong;
+    private static int sentences;
+    private static String sentence = "";
 
     private Bench() {
     }
@@ -13,11 +17,29 @@ final class Bench {
         Object make();
     }
 
+    interface CallOn {
+        Object make(Tracewheel x);
+    }
+
+    interface Maker {
+        Tracewheel make();
+    }
+
+    /** Names the document's sentence of which the answers behind this call are due. */
+    static void sentence(String text) {
+        sentence = text;
+        sentences++;
+    }
+
+    private static void tell(String fault) {
+        wrong++;
+        System.out.println(sentence.isEmpty() ? fault : sentence + "\n    " + fault);
+    }
+
     static void due(String what, Object got, Object want) {
         asked++;
         if (!got.equals(want)) {
-            wrong++;
-            System.out.println(what + " answered " + got + ", due is " + want);
+            tell(what + " answered " + got + ", due is " + want);
         }
     }
 
@@ -26,18 +48,43 @@ final class Bench {
         asked++;
         try {
             Object got = call.make();
-            wrong++;
-            System.out.println(what + " answered " + got + ", due is " + kind.getSimpleName());
+            tell(what + " answered " + got + ", due is " + kind.getSimpleName());
         } catch (RuntimeException e) {
             if (e.getClass() != kind) {
-                wrong++;
-                System.out.println(what + " threw " + e + ", due is " + kind.getSimpleName());
+                tell(what + " threw " + e + ", due is " + kind.getSimpleName());
             }
         }
     }
 
+    /** A refused call on a machine of its own, which must then answer and go on as one on which it was not made. */
+    static void refuses(String what, Maker maker, Class<? extends RuntimeException> kind, CallOn call) {
+        Tracewheel x = maker.make();
+        Tracewheel y = maker.make();
+        fails(what, kind, () -> call.make(x));
+        due("all answers behind " + what, everything(x), everything(y));
+        due("what comes behind " + what, goingOn(x), goingOn(y));
+    }
+
+    /** Answers that rest on what was told to the machine: handlers, code, methods, cells, limits and how many there are. */
+    private static String goingOn(Tracewheel x) {
+        StringBuilder all = new StringBuilder();
+        all.append(answer(() -> x.run(0, 9))).append(' ').append(everything(x));
+        all.append(answer(() -> x.code(0, 'r', 0))).append(' ').append(answer(() -> x.setHandler(0, 0))).append(' ');
+        all.append(answer(() -> x.addFunction(1))).append(' ').append(answer(() -> x.addClass(-1)));
+        return all.toString();
+    }
+
+    private static String answer(Call call) {
+        try {
+            return String.valueOf(call.make());
+        } catch (RuntimeException e) {
+            return e.getClass().getSimpleName();
+        }
+    }
+
     static void end() {
-        System.out.println(asked + " answers asked, " + wrong + " of them wrong");
+        String told = sentences == 0 ? "" : " of " + sentences + " sentences";
+        System.out.println(asked + " answers" + told + " asked, " + wrong + " of them wrong");
         if (wrong != 0) {
             System.exit(1);
         }
@@ -113,5 +160,61 @@ final class Bench {
 
     static String cache(Tracewheel x, int function, int index) {
         return x.cacheState(function, index) + " " + x.hits(function, index) + " " + x.misses(function, index);
+    }
+
+    /** What the machine answers about its last run and what it keeps, in few enough calls for a small machine. */
+    static String everything(Tracewheel x) {
+        StringBuilder all = new StringBuilder(ending(x) + " | " + told(x) + " | " + x.inTraces() + " " + x.agrees() + " "
+            + x.isSound() + " | " + x.codeSize());
+        for (int i = 0; i < x.objects(); i++) {
+            all.append(" object ").append(x.shapeOf(i));
+        }
+        for (int i = 0; i < x.shapes(); i++) {
+            all.append(" shape");
+            for (int j = 0; j < x.fields(i); j++) {
+                all.append(' ').append(x.fieldAt(i, j));
+            }
+        }
+        for (int i = 0; i < x.traces(); i++) {
+            all.append(" trace ").append(x.isThere(i)).append(' ').append(x.begun(i)).append(' ').append(lines(x, i))
+                .append(' ').append(guards(x, i));
+        }
+        return all.toString();
+    }
+
+    /** A head: its counter, and whether it is barred. */
+    static String head(Tracewheel x, int function, int index) {
+        return x.counter(function, index) + (x.isBarred(function, index) ? " barred" : "");
+    }
+
+    /** Which traces are there, a 1 or a 0 each. */
+    static String there(Tracewheel x) {
+        StringBuilder text = new StringBuilder();
+        for (int i = 0; i < x.traces(); i++) {
+            text.append(x.isThere(i) ? '1' : '0');
+        }
+        return text.toString();
+    }
+
+    /** Words repeated, each with a blank behind it. */
+    static String times(int count, String words) {
+        StringBuilder text = new StringBuilder();
+        for (int i = 0; i < count; i++) {
+            text.append(words).append(' ');
+        }
+        return text.toString();
+    }
+
+    /**
+     * A machine with one class and 57 shapes. Its function 0 gives its parameter all six fields; in functions 1 and 2,
+     * objects with some fields are given the others so. Function 3 is for the test; (1, 2) is a way that is not there.
+     */
+    static Tracewheel withShapes57(String last) {
+        Tracewheel x = machine(1, "1: l0 i1 p0 l0 i1 p1 l0 i1 p2 l0 i1 p3 l0 i1 p4 l0 i1 p5 l0 r",
+            "1: n0 c0 d n0 u i1 p1 c0 d n0 u i1 p2 c0 d n0 u i1 p3 c0 d n0 u i1 p4 c0 d n0 u i1 p5 c0 r",
+            "1: n0 u i1 p0 u i1 p2 c0 d n0 u i1 p0 u i1 p3 c0 d n0 u i1 p0 u i1 p4 c0 d n0 u i1 p0 u i1 p5 c0 r", "1: " + last);
+        x.run(1, 0);
+        x.run(2, 0);
+        return x;
     }
 }

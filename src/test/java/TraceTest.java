@@ -33,25 +33,21 @@ public final class TraceTest {
         Bench.end();
     }
 
-    private static String head(Tracewheel x, int function, int index) {
-        return x.counter(function, index) + (x.isBarred(function, index) ? " barred" : "");
-    }
-
     private static void heads() {
         Tracewheel x = Bench.machine(0, SUM);
         x.run(0, 3);
-        Bench.due("two jumps back", head(x, 0, 2), "2");
+        Bench.due("two jumps back", Bench.head(x, 0, 2), "2");
         x.run(0, 2);
-        Bench.due("broken off by the run's end", head(x, 0, 2), "0");
+        Bench.due("broken off by the run's end", Bench.head(x, 0, 2), "0");
         x.run(0, 4);
-        Bench.due("broken off twice", head(x, 0, 2), "0 barred");
+        Bench.due("broken off twice", Bench.head(x, 0, 2), "0 barred");
         x.run(0, 9);
-        Bench.due("barred, and counted still", head(x, 0, 2), "8 barred");
+        Bench.due("barred, and counted still", Bench.head(x, 0, 2), "8 barred");
         Bench.due("no trace", x.traces(), 0);
         Bench.due("no instruction in traces", x.inTraces(), 0);
         Tracewheel y = Bench.machine(0, SUM);
         y.run(0, 9);
-        Bench.due("the counter behind recording", head(y, 0, 2), "3");
+        Bench.due("the counter behind recording", Bench.head(y, 0, 2), "3");
         Bench.due("the trace", Bench.lines(y, 0), "2 3 4 5 6 7 8 9 10 11 12");
         Bench.due("its guards", Bench.guards(y, 0), "2k 2k 2o 6o 9t");
         Bench.due("its entries", y.begun(0), 5);
@@ -82,14 +78,14 @@ public final class TraceTest {
         Tracewheel x = Bench.machine(0, SUM);
         x.setLimits(5, 2, 80);
         x.run(0, 6);
-        Bench.due("one jump is left to close a trace", x.traces() + " " + head(x, 0, 2), "0 0");
+        Bench.due("one jump is left to close a trace", x.traces() + " " + Bench.head(x, 0, 2), "0 0");
         x.run(0, 7);
-        Bench.due("five and one to close", x.traces() + " " + head(x, 0, 2), "1 5");
+        Bench.due("five and one to close", x.traces() + " " + Bench.head(x, 0, 2), "1 5");
         Tracewheel y = Bench.machine(0, SUM);
         y.run(0, 3);
         y.setLimits(2, 2, 80);
         y.run(0, 3);
-        Bench.due("a limit that was reached before", y.traces() + " " + head(y, 0, 2), "1 3");
+        Bench.due("a limit that was reached before", y.traces() + " " + Bench.head(y, 0, 2), "1 3");
     }
 
     private static String padded(int pads) {
@@ -103,29 +99,29 @@ public final class TraceTest {
     private static void thirtySteps() {
         Tracewheel x = Bench.machine(0, padded(23));
         x.run(0, 10);
-        Bench.due("30 steps", x.traces() + " " + x.steps(0) + " " + head(x, 0, 0), "1 30 3");
+        Bench.due("30 steps", x.traces() + " " + x.steps(0) + " " + Bench.head(x, 0, 0), "1 30 3");
         Tracewheel y = Bench.machine(0, padded(24));
         y.run(0, 5);
-        Bench.due("31 steps, and the jump behind them", y.traces() + " " + head(y, 0, 0), "0 1");
+        Bench.due("31 steps, and the jump behind them", y.traces() + " " + Bench.head(y, 0, 0), "0 1");
         y.run(0, 6);
-        Bench.due("31 steps once more", y.traces() + " " + head(y, 0, 0), "0 3 barred");
+        Bench.due("31 steps once more", y.traces() + " " + Bench.head(y, 0, 0), "0 3 barred");
         y.run(0, 10);
-        Bench.due("barred", y.traces() + " " + head(y, 0, 0), "0 12 barred");
+        Bench.due("barred", y.traces() + " " + Bench.head(y, 0, 0), "0 12 barred");
     }
 
     private static void brokenOffByOtherHeads() {
         Tracewheel x = Bench.machine(0, "1:", "1: l0 z5 i0 s0 j0 i1 r");
         Bench.write(x, 0, "i1 c1 d l0 i1 - u s0 z10 j0 l0 r");
         x.run(0, 4);
-        Bench.due("broken off by another head", head(x, 0, 0) + ", " + head(x, 1, 0), "0, 1");
+        Bench.due("broken off by another head", Bench.head(x, 0, 0) + ", " + Bench.head(x, 1, 0), "0, 1");
         x.run(0, 10);
-        Bench.due("broken off twice by another head", head(x, 0, 0) + ", " + head(x, 1, 0), "6 barred, 8 barred");
+        Bench.due("broken off twice by another head", Bench.head(x, 0, 0) + ", " + Bench.head(x, 1, 0), "6 barred, 8 barred");
         Bench.due("no trace", x.traces(), 0);
         Tracewheel y = Bench.machine(0, "1:", "1: l0 z7 l0 i1 - s0 j0 i1 r");
         Bench.write(y, 0, "i5 c1 d l0 i1 - u s0 z10 j0 l0 r");
         y.run(0, 9);
         Bench.due("the other head's trace is entered", y.traces() + " " + y.rootOf(0) + " " + y.lineAt(0, 0), "1 0 100");
-        Bench.due("the outer head is barred", head(y, 0, 0), "2 barred");
+        Bench.due("the outer head is barred", Bench.head(y, 0, 0), "2 barred");
         Bench.due("agreement", y.agrees(), true);
     }
 
@@ -133,7 +129,7 @@ public final class TraceTest {
         Tracewheel x = Bench.machine(0, "1: i5 s1 l0 z7 i0 c0 d l1 i1 - u s1 z14 j2 l1 r");
         x.setLimits(5, 2, 80);
         x.run(0, 1);
-        Bench.due("the same head in another frame", x.traces() + " " + head(x, 0, 2), "0 14 barred");
+        Bench.due("the same head in another frame", x.traces() + " " + Bench.head(x, 0, 2), "0 14 barred");
     }
 
     /** A later call makes a frame at the same depth, but it is another one. */
@@ -141,26 +137,26 @@ public final class TraceTest {
         Tracewheel x = Bench.machine(0, "1:", "1: l0 z5 i0 s0 j0 i1 r");
         Bench.write(x, 0, "l0 c1 d l0 c1 d l0 c1 d l0 c1 d i1 r");
         x.run(0, 1);
-        Bench.due("broken off by the end of the frame", x.traces() + " " + head(x, 1, 0), "0 1");
+        Bench.due("broken off by the end of the frame", x.traces() + " " + Bench.head(x, 1, 0), "0 1");
         x.run(0, 1);
-        Bench.due("broken off twice by the end of the frame", x.traces() + " " + head(x, 1, 0), "0 2 barred");
+        Bench.due("broken off twice by the end of the frame", x.traces() + " " + Bench.head(x, 1, 0), "0 2 barred");
     }
 
     private static void brokenOffByFailure() {
         Tracewheel x = Bench.machine(0, "1: l0 i3 - z12 l0 i1 - u s0 z11 j0 r i1 i0 / j4");
         x.setHandler(0, 4);
         x.run(0, 6);
-        Bench.due("broken off by a failure with a handler", x.traces() + " " + head(x, 0, 0), "0 2");
+        Bench.due("broken off by a failure with a handler", x.traces() + " " + Bench.head(x, 0, 0), "0 2");
         Bench.due("its end", Bench.ending(x), "i48");
         Tracewheel y = Bench.machine(0, "1: i7 l0 / d l0 i1 - s0 j0");
         y.run(0, 3);
-        Bench.due("broken off by the last failure", head(y, 0, 0) + " " + Bench.ending(y), "0 x02");
+        Bench.due("broken off by the last failure", Bench.head(y, 0, 0) + " " + Bench.ending(y), "0 x02");
         y.run(0, 3);
-        Bench.due("broken off by it again", head(y, 0, 0), "0 barred");
+        Bench.due("broken off by it again", Bench.head(y, 0, 0), "0 barred");
     }
 
     /** The guards of the trace of a loop with the given body; the guards of what counts the loop down come behind them. */
-    private static String guardsOf(String body, int classes, String... others) {
+    static String guardsOf(String body, int classes, String... others) {
         int length = body.isEmpty() ? 0 : body.trim().split(" +").length;
         String before = classes > 0 ? "n0 u i4 p0 u s2 s3 " : "";
         int first = classes > 0 ? 7 : 0;
@@ -370,21 +366,13 @@ public final class TraceTest {
             Bench.due("thrown away " + i, x.setCell(0, i), 1);
         }
         x.run(0, 5);
-        Bench.due("no other trace", x.traces() + " " + head(x, 0, 0), "20 0");
+        Bench.due("no other trace", x.traces() + " " + Bench.head(x, 0, 0), "20 0");
         x.run(0, 5);
-        Bench.due("broken off twice", x.traces() + " " + head(x, 0, 0), "20 0 barred");
+        Bench.due("broken off twice", x.traces() + " " + Bench.head(x, 0, 0), "20 0 barred");
         Bench.fails("meanGuards", ArithmeticException.class, x::meanGuards);
         Bench.due("no steps", x.codeSize(), 0);
         Bench.due("the last one", x.isThere(19) + " " + x.steps(19) + " " + x.rootOf(19), "false 9 19");
         Bench.due("agreement", x.agrees() && x.isSound(), true);
-    }
-
-    private static String there(Tracewheel x) {
-        StringBuilder text = new StringBuilder();
-        for (int i = 0; i < x.traces(); i++) {
-            text.append(x.isThere(i) ? '1' : '0');
-        }
-        return text.toString();
     }
 
     private static void leastLatelyEntered() {
@@ -392,16 +380,16 @@ public final class TraceTest {
         x.setLimits(3, 2, 45);
         x.run(0, 20);
         x.run(1, 20);
-        Bench.due("two trees", there(x) + " " + x.codeSize(), "1111 42");
+        Bench.due("two trees", Bench.there(x) + " " + x.codeSize(), "1111 42");
         x.run(0, 2);
         x.run(2, 20);
-        Bench.due("the second was entered least lately", there(x) + " " + x.codeSize(), "110011 42");
+        Bench.due("the second was entered least lately", Bench.there(x) + " " + x.codeSize(), "110011 42");
         Bench.due("its head's counter", x.counter(1, 0) + " " + x.counter(0, 0), "0 3");
         Bench.due("a smaller limit", x.setLimits(3, 2, 41), 1);
-        Bench.due("the first goes", there(x) + " " + x.codeSize(), "000011 21");
+        Bench.due("the first goes", Bench.there(x) + " " + x.codeSize(), "000011 21");
         Bench.due("just enough", x.setLimits(3, 2, 21), 0);
         Bench.due("one too few", x.setLimits(3, 2, 20), 1);
-        Bench.due("none is left", there(x) + " " + x.codeSize() + " " + x.counter(2, 0), "000000 0 0");
+        Bench.due("none is left", Bench.there(x) + " " + x.codeSize() + " " + x.counter(2, 0), "000000 0 0");
         Bench.due("what is gone can be asked", x.sideOf(0, 1) + " " + x.rootOf(5) + " " + x.steps(3), "1 4 8");
         Tracewheel y = Bench.machine(0, PARITY, PARITY);
         y.run(0, 20);
@@ -413,12 +401,12 @@ public final class TraceTest {
         Tracewheel x = Bench.machine(0, PARITY, "1: l0 i1 - u s0 z7 j0 l0 r");
         x.setLimits(3, 2, 20);
         x.run(1, 9);
-        Bench.due("a small tree", there(x) + " " + x.codeSize(), "1 7");
+        Bench.due("a small tree", Bench.there(x) + " " + x.codeSize(), "1 7");
         x.run(0, 10);
-        Bench.due("both have room, the side trace has none without the small one", there(x) + " " + x.codeSize(), "01 13");
+        Bench.due("both have room, the side trace has none without the small one", Bench.there(x) + " " + x.codeSize(), "01 13");
         x.run(0, 20);
         x.run(0, 20);
-        Bench.due("the side trace never comes to be", there(x) + " " + x.codeSize(), "01 13");
+        Bench.due("the side trace never comes to be", Bench.there(x) + " " + x.codeSize(), "01 13");
         Bench.due("agreement", x.agrees() && x.isSound(), true);
     }
 
@@ -426,11 +414,11 @@ public final class TraceTest {
         Tracewheel x = Bench.machine(0, PARITY, "1: l0 i1 - u s0 z7 j0 l0 r");
         x.setLimits(3, 2, 12);
         x.run(1, 9);
-        Bench.due("a small tree", there(x), "1");
+        Bench.due("a small tree", Bench.there(x), "1");
         x.run(0, 6);
-        Bench.due("all trees are thrown away for it, and it has no room all the same", there(x) + " " + head(x, 0, 0), "0 1");
+        Bench.due("all trees are thrown away for it, and it has no room all the same", Bench.there(x) + " " + Bench.head(x, 0, 0), "0 1");
         x.run(0, 7);
-        Bench.due("once more", there(x) + " " + head(x, 0, 0), "0 3 barred");
+        Bench.due("once more", Bench.there(x) + " " + Bench.head(x, 0, 0), "0 3 barred");
     }
 
     private static void cellsThrowAway() {
@@ -439,18 +427,18 @@ public final class TraceTest {
         for (int i = 0; i < 4; i++) {
             x.run(i, 9);
         }
-        Bench.due("four trees", there(x), "1111");
+        Bench.due("four trees", Bench.there(x), "1111");
         Bench.due("the same integer", x.setCell(0, 0), 0);
         Bench.due("another cell", x.setCell(7, 1), 0);
         Bench.due("both trees with the cell", x.setCell(0, 1), 2);
-        Bench.due("the others stay", there(x), "0011");
+        Bench.due("the others stay", Bench.there(x), "0011");
         Bench.due("counters", x.counter(0, 0) + " " + x.counter(1, 0) + " " + x.counter(2, 2) + " " + x.counter(3, 0), "0 0 3 3");
         Bench.due("none is left for the cell", x.setCell(0, 2), 0);
         Tracewheel y = Bench.machine(0, PARITY.replace("l0 i1 -", "l0 k5 -"));
         y.setCell(5, 1);
         y.run(0, 20);
         Bench.due("a tree with the cell in two traces", y.traces() + " " + y.setCell(5, 2), "2 1");
-        Bench.due("nothing is there", there(y), "00");
+        Bench.due("nothing is there", Bench.there(y), "00");
     }
 
     private static void methodsThrowAway() {
@@ -458,11 +446,11 @@ public final class TraceTest {
         x.setMethod(0, 0, 1);
         x.run(0, 9);
         x.run(2, 9);
-        Bench.due("two trees", there(x), "11");
+        Bench.due("two trees", Bench.there(x), "11");
         Bench.due("a method of another class and name", x.setMethod(1, 5, 1), 1);
-        Bench.due("the tree with the method is gone", there(x), "01");
+        Bench.due("the tree with the method is gone", Bench.there(x), "01");
         x.run(0, 9);
-        Bench.due("it comes again", there(x), "011");
+        Bench.due("it comes again", Bench.there(x), "011");
         Bench.due("the same method", x.setMethod(0, 0, 1), 1);
         Bench.due("and none is left", x.setMethod(0, 0, 3), 0);
         Bench.due("the head's counter", x.counter(0, 0), 0);
