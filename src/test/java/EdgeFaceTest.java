@@ -259,7 +259,7 @@ public final class EdgeFaceTest {
     }
 
     private static Tracewheel fortyInstructions() {
-        return Bench.machine(0, "1: " + Bench.times(39, "j0").replace("j0", "i0 d").substring(0, 19 * 5) + "l0 r");
+        return Bench.machine(0, "1: " + Bench.times(19, "i0 d") + "l0 r");
     }
 
     private static void thereAreFortyInstructions() {

@@ -9,6 +9,7 @@ public final class EdgeRunTest {
     private static final String MINUS_ZERO = "i0 i-1 " + HALF + "* * ";
     /** The least float above 0: 2 to the -1074. */
     private static final String LEAST = TWO_TO_31 + "s1 i1 l1 u * u * u * u * u * / l1 / l1 / i1048576 / ";
+    private static final String GREATEST = TWO_TO_31 + "s1 l1 i4194304 * i1 - l1 u * u * u * u * u * i2097152 / * ";
     private static final String EIGHT = Bench.times(8, "i1");
     private static final String SEVEN = Bench.times(7, "i1");
 
@@ -33,6 +34,7 @@ public final class EdgeRunTest {
         quotientsAtTheEdge();
         restsAtTheEdge();
         floatsAtTheEdge();
+        answersOfAllKinds();
         roundingAtTheEdge();
         lessAtTheEdge();
         equalAtTheEdge();
@@ -419,7 +421,59 @@ public final class EdgeRunTest {
         ends(ENDLESS + "i5 % r", "fNaN");
         ends("i5 " + UNDEFINED + "% r", "fNaN");
         ends(UNDEFINED + "i5 % r", "fNaN");
+        ends(HALF_IN_1 + "l1 l1 + r", "f1.0");
+        ends(HALF_IN_1 + "l1 l1 + i-1 * r", "f-1.0");
+        restsOfFloats();
+        endlessFloats();
         greatestFloat();
+    }
+
+    private static void restsOfFloats() {
+        ends(TWO_TO_31 + "i2 % r", "f0.0");
+        ends(TWO_TO_31 + "i1 % r", "f0.0");
+        ends(TWO_TO_31 + "u % r", "f0.0");
+        ends(TWO_TO_31 + "i-1 * i2 % r", "f-0.0");
+        ends(TWO_TO_31 + "i2147483647 % r", "f1.0");
+        ends("i2147483647 " + TWO_TO_31 + "% r", "f2.147483647E9");
+        ends(HALF_IN_1 + "l1 i-1 * l1 i2 / % r", "f-0.0");
+        ends(HALF_IN_1 + "l1 l1 i-2 / % r", "f0.0");
+        ends(HALF_IN_1 + "l1 l1 i2 / + l1 % r", "f0.25");
+        ends(HALF_IN_1 + "l1 l1 i2 / + i-1 * l1 % r", "f-0.25");
+        ends(HALF_IN_1 + "l1 l1 i2 / + l1 i-1 * % r", "f0.25");
+        ends(HALF_IN_1 + "i3 l1 i-1 * % r", "f0.0");
+        ends(HALF_IN_1 + "i-3 l1 l1 i2 / + % r", "f-0.0");
+        ends(HALF_IN_1 + "i-2 l1 l1 i2 / + % r", "f-0.5");
+    }
+
+    private static void endlessFloats() {
+        String endless = ENDLESS + "s1 ";
+        ends(endless + "l1 l1 + r", "fInfinity");
+        ends(endless + "l1 l1 i-1 * + r", "fNaN");
+        ends(endless + "l1 i-1 * l1 + r", "fNaN");
+        ends(endless + "l1 i-1 * u + r", "f-Infinity");
+        ends(endless + "l1 i-5 + r", "fInfinity");
+        ends(endless + "i-5 l1 + r", "fInfinity");
+        ends(endless + "i5 l1 i-1 * + r", "f-Infinity");
+        ends(endless + "l1 l1 - r", "fNaN");
+        ends(endless + "l1 l1 i-1 * - r", "fInfinity");
+        ends(endless + "l1 i-1 * l1 - r", "f-Infinity");
+        ends(endless + "l1 i-1 * u - r", "fNaN");
+        ends(endless + "i5 l1 - r", "f-Infinity");
+        ends(endless + "l1 i5 - r", "fInfinity");
+        ends(endless + "l1 l1 * r", "fInfinity");
+        ends(endless + "l1 l1 i-1 * * r", "f-Infinity");
+        ends(endless + "l1 i0 * r", "fNaN");
+        ends(endless + "i0 l1 * r", "fNaN");
+        ends(endless + "l1 i-1 * i0 * r", "fNaN");
+        ends(endless + "i1 l1 * r", "fInfinity");
+        ends(endless + "l1 l1 / r", "fNaN");
+        ends(endless + "l1 l1 i-1 * / r", "fNaN");
+        ends(endless + "l1 i0 / r", "fInfinity");
+        ends(endless + "i0 l1 / r", "f0.0");
+        ends(endless + "i-5 l1 / r", "f-0.0");
+        ends(endless + "l1 i-5 / r", "f-Infinity");
+        ends(endless + "l1 i0 % r", "fNaN");
+        ends(endless + "i0 l1 % r", "f0.0");
     }
 
     /** 2 to the 1023 and what goes over the greatest float: 2 to the 992 times 2 to the 31. */
@@ -433,11 +487,69 @@ public final class EdgeRunTest {
         ends(top + "l2 i3 % r", "f" + Math.scalb(1.0, 1023) % 3.0);
         ends(top + "l2 i8 / i-7 * i1000003 % r", "f" + Math.scalb(-7.0, 1020) % 1000003.0);
         ends(top + "l2 l2 i1 - = r", "i1");
+        String greatest = GREATEST + "s2 ";
+        ends(greatest + "l2 r", "f" + Double.MAX_VALUE);
+        ends(greatest + "l2 i-1 * r", "f" + -Double.MAX_VALUE);
+        ends(greatest + "l2 l2 - r", "f0.0");
+        ends(greatest + "l2 i-1 * u - r", "f0.0");
+        ends(greatest + "l2 l2 / r", "f1.0");
+        ends(greatest + "l2 l2 % r", "f0.0");
+        ends(greatest + "l2 i7 % r", "f" + Double.MAX_VALUE % 7.0);
+        ends(greatest + "l2 i1 + r", "f" + Double.MAX_VALUE);
+        ends(greatest + "l2 l2 + r", "fInfinity");
+        ends(greatest + "l2 i-2 * r", "f-Infinity");
+        ends(greatest + "l2 i0 * r", "f0.0");
+        ends(greatest + "l2 w r", "xw25");
         Tracewheel x = Bench.machine(0, "1: " + top + "l2 l2 l2 i9007199 / i119 / i8 / - + r");
         x.run(0, 0);
         double half = Math.scalb(1.0, 1023);
         Bench.due("the bits of a float near the greatest", x.result(),
             Double.doubleToLongBits(half + (half - half / 9007199.0 / 119.0 / 8.0)));
+    }
+
+    private static void answersOfAllKinds() {
+        sentence("Promise 12: Returns the integer, the bits of the float, as Double.doubleToLongBits tells them, the object's number, or 0");
+        answers(UNDEFINED, 'f', Double.doubleToLongBits(Double.NaN));
+        answers(ENDLESS, 'f', Double.doubleToLongBits(Double.POSITIVE_INFINITY));
+        answers(ENDLESS + "i-1 * ", 'f', Double.doubleToLongBits(Double.NEGATIVE_INFINITY));
+        answers(HALF + "u - ", 'f', Double.doubleToLongBits(0.0));
+        answers(MINUS_ZERO, 'f', Double.doubleToLongBits(-0.0));
+        answers(LEAST, 'f', Double.doubleToLongBits(Double.MIN_VALUE));
+        answers(LEAST + "i-1 * ", 'f', Double.doubleToLongBits(-Double.MIN_VALUE));
+        answers(GREATEST, 'f', Double.doubleToLongBits(Double.MAX_VALUE));
+        answers(GREATEST + "i-1 * ", 'f', Double.doubleToLongBits(-Double.MAX_VALUE));
+        answers(HALF + "u + ", 'f', Double.doubleToLongBits(1.0));
+        answers("i-1 " + HALF + "* ", 'f', Double.doubleToLongBits(-0.5));
+        answers("i-1 ", 'i', -1L);
+        answers("i-2147483648 ", 'i', -2147483648L);
+        answers("i2147483647 ", 'i', 2147483647L);
+        answers("l5 ", 'n', 0L);
+        answers("n0 ", 'o', 0L);
+        answers("n0 d n0 d n0 ", 'o', 2L);
+        Tracewheel x = least();
+        for (int halvings : new int[] {21, 22, 23, 51, 52, 53, 71, 72, 73, 74, 75}) {
+            x.run(0, halvings);
+            double want = 7.0 * Math.scalb(1.0, -1000);
+            for (int i = 0; i < halvings; i++) {
+                want = want / 2;
+            }
+            Bench.due("the bits of a float with fewer digits, behind " + halvings, x.result(), Double.doubleToLongBits(want));
+        }
+    }
+
+    /** 7 * 2 to the -1000, halved as often as the argument says. */
+    private static Tracewheel least() {
+        return Bench.machine(0, "1: " + TWO_TO_31 + "u * u * u * u * u * s1 i7 l1 / i256 / s1 l1 i2 / s1 l0 i1 - u s0 z31 j20 l1 r");
+    }
+
+    /** What result(), toldAt() and field() answer of a value. */
+    private static void answers(String words, char kind, long bits) {
+        Tracewheel x = Bench.machine(1, "1: " + words + "s1 l1 t l1 r", "1: n0 c2 r", "1: " + words + "s1 l0 l1 p3 l0 r");
+        x.run(0, 0);
+        Bench.due("the end of " + words, x.resultKind() + " " + x.result(), kind + " " + bits);
+        Bench.due("told of " + words, x.toldKind(0) + " " + x.toldAt(0), kind + " " + bits);
+        x.run(1, 0);
+        Bench.due("a field of " + words, x.field(0, 3), kind == 'o' ? bits + 1 : bits);
     }
 
     private static void roundingAtTheEdge() {
@@ -570,10 +682,11 @@ public final class EdgeRunTest {
         x.run(5, 0);
         Bench.due("'r' with eight values to none", Bench.ending(x), "i1");
         sentence("Instructions: 'r' .. in the last frame, the run ends with this value");
-        for (String text : new String[] {"l0", "l1", "n0", HALF.trim(), "n0 d n1"}) {
-            ends(text + " r", text.equals("l0") ? "i10" : text.equals("l1") ? "n0" : text.equals("n0") ? "o0"
-                : text.equals("n0 d n1") ? "o1" : "f0.5");
-        }
+        ends("l0 r", "i10");
+        ends("l1 r", "n0");
+        ends("n0 r", "o0");
+        ends("n0 d n1 r", "o1");
+        ends(HALF + "r", "f0.5");
         sentence("Failures: 's' .. fewer values than it takes: 'r' of a frame without values");
         Tracewheel y = Bench.machine(0, "1: l0 c1 r", "1: r");
         y.run(0, 0);
@@ -754,8 +867,8 @@ public final class EdgeRunTest {
 
     /** Functions 0 to 4 hand an object of the class of their number to function 5, which has caches at 2, 4 and 7. */
     private static Tracewheel fiveKinds() {
-        Tracewheel x = Bench.machine(5, "1: n0 c5 r", "1: n1 c5 r", "1: n2 c5 r", "1: n3 c5 r", "1: n4 c5 r",
-            "1: l0 i1 p0 l0 g0 d l0 m0 r", "1: i3 r");
+        Tracewheel x = Bench.machine(5, "1: n0 d n0 c5 r", "1: n0 d n1 c5 r", "1: n0 d n2 c5 r", "1: n0 d n3 c5 r",
+            "1: n0 d n4 c5 r", "1: l0 i1 p0 l0 g0 d l0 m0 r", "1: i3 r");
         for (int clazz = 0; clazz < 5; clazz++) {
             x.setMethod(clazz, 0, 6);
         }
@@ -784,6 +897,7 @@ public final class EdgeRunTest {
             x.run(i, 0);
         }
         all(x, "hits with three keys", "3 4 3");
+        Bench.due("isSound() with three keys", x.isSound(), true);
         x.run(3, 0);
         all(x, "a fourth key", "x 4 4");
         for (int i = 0; i < 5; i++) {
@@ -791,7 +905,7 @@ public final class EdgeRunTest {
         }
         sentence("Caches: all keys are gone, and no hits and misses are counted behind this one any more");
         all(x, "given up", "x 4 4");
-        Bench.due("isSound()", x.isSound(), true);
+        Bench.due("isSound() with caches that have given up", x.isSound(), true);
     }
 
     private static void cachesOfMethods() {
@@ -819,6 +933,13 @@ public final class EdgeRunTest {
         Bench.due("'m' given up", Bench.cache(x, 5, 7), "x 0 9");
         x.setMethod(4, 5, 6);
         Bench.due("'m' given up still", Bench.cache(x, 5, 7), "x 0 9");
+        Tracewheel first = Bench.machine(1, "1: m0 r d n0 j0", "1: i3 r");
+        first.setHandler(0, 2);
+        first.setMethod(0, 0, 1);
+        first.run(0, 0);
+        Bench.due("an 'm' at the first index", Bench.ending(first) + ", " + Bench.cache(first, 0, 0), "i3, 1 0 1");
+        first.setMethod(0, 1, 1);
+        Bench.due("it is empty, too", Bench.cache(first, 0, 0), "e 0 1");
         sentence("Caches: keys: the shape of the object for 'g' and 'p', its class for 'm'");
         Tracewheel y = Bench.machine(1, "1: n0 c1 d n0 u i1 p0 c1 r", "1: l0 m0 d l0 i1 p1 l0 g1 r", "1: i3 r");
         y.setMethod(0, 0, 2);

@@ -19,6 +19,7 @@ public final class EdgeTraceTest {
         brokenOffTwice();
         guardsOfTheSeven();
         guardsBehindGuards();
+        localsOfANewFrame();
         guardsThatDoNotHold();
         shapesThatAreKnown();
         twentyTraces();
@@ -284,6 +285,20 @@ public final class EdgeTraceTest {
         guards("i3 w z2", "5k 5o 8t");
     }
 
+    private static void localsOfANewFrame() {
+        sentence("Guards: locals of a new frame that are no parameters are known to be nothing");
+        over("c1 d", "0: l0 l5 = d i5 r", "10k 10o 13t");
+        over("l0 c1 d", "1: l1 l5 = d l0 i1 = r", "8k 13o 16t");
+        over("l0 i3 l1 c1 d", "3: l3 l5 = d l2 r", "13k 13o 16t");
+        over("l0 i3 l1 c1 d", "3: l2 l5 = r", "6k 11k 11o 14t");
+        over("l0 c1 d", "1: l1 z4 i1 r i2 r", "9k 9o 12t");
+        Bench.due("guards with a method", TraceTest.guardsOf("l2 m0 d", 1, "1: l1 l5 = r"), "1s 9k 9o 12t");
+    }
+
+    private static void over(String body, String other, String want) {
+        Bench.due("guards of " + body + " with " + other, TraceTest.guardsOf(body, 0, other), want);
+    }
+
     /** A guard's exits show that it did not hold, those of the others that they did. */
     private static String exitsOf(Tracewheel x, int trace) {
         StringBuilder text = new StringBuilder();
@@ -299,6 +314,11 @@ public final class EdgeTraceTest {
         Bench.due("guards", Bench.guards(x, 0), "2k 2o 6k 6o 9t");
         Bench.due("an integer that becomes a float in the eighth round", exitsOf(x, 0), "k2 o1 k0 o0 t0");
         Bench.due("a value that becomes 0", exitsOf(ran(9, LOOP), 0), "k0 o0 t1");
+        Bench.due("a sum in range, the second one great",
+            exitsOf(ran(9, "1: i2000000000 s1 l0 l1 + d l0 i1 - u s0 z13 j2 l0 r"), 0), "k0 k0 o0 o0 t1");
+        Bench.due("a sum in range, the first one great",
+            exitsOf(ran(9, "1: i2000000000 s1 l1 l0 + d l0 i1 - u s0 z13 j2 l0 r"), 0), "k0 k0 o0 o0 t1");
+        Bench.due("a sum out of range", exitsOf(ran(9, "1: i2147483647 s1 l1 l0 + d l0 i1 - u s0 z13 j2 l0 r"), 0), "k0 k0 o0 o0 t1");
         Tracewheel y = Bench.machine(1, "1: n0 u i5 p0 s1 n0 u i6 p1 u i7 p0 s2 l1 g0 d l0 i3 < z22 l2 s1 l0 i1 - u s0 z29 j13 l0 r");
         y.run(0, 9);
         Bench.due("guards of a loop with an object", Bench.guards(y, 0), "1s 5k 6t 9o 12t");
@@ -316,12 +336,17 @@ public final class EdgeTraceTest {
         objects("l2 g0 d l2 i1 p0", "1s 8k 8o 11t");
         objects("l2 m0 d l2 g0 d", "1s 11k 11o 14t");
         objects("n0 i1 p0", "5k 5o 8t");
+        objects("i3 d l2 g0 i1 + d", "3s 5k 5o 9k 9o 12t");
         sentence("Guards: When 'p' gives an object another shape, this shape is known of it, and no shape of any other value");
         objects("l2 g0 d n0 u i1 p1 g1 d", "1s 11k 11o 14t");
         objects("l2 g0 d n0 i1 p1 l2 g0 d", "1s 7s 11k 11o 14t");
+        objects("l2 g0 d n0 i1 p0 l2 g0 d", "1s 7s 11k 11o 14t");
         objects("n0 s4 n0 i1 p1 l4 i1 p0", "7s 10k 10o 13t");
         objects("n0 u s4 i1 p1 l4 g1 d", "10k 10o 13t");
         objects("l2 g0 d l2 i1 p0 l2 g0 d", "1s 11k 11o 14t");
+        Tracewheel x = Bench.machine(1, "1: l0 s1 n0 u i4 p0 s0 l0 g0 d n0 i1 p1 l0 g0 d l1 i1 - u s1 z23 j7 l1 r");
+        x.run(0, 9);
+        Bench.due("an object in the first local", Bench.guards(x, 0), "1s 7s 11k 11o 14t");
         sentence("Guards: but that they are objects stays known");
         objects("n0 s4 n0 i1 p1 l4 z0", "9k 9o 12t");
         objects("n0 s4 n0 i1 p1 l4 i0 = d", "11k 11o 14t");
@@ -544,15 +569,12 @@ public final class EdgeTraceTest {
 
     private static void methodsThatChange() {
         sentence("Throwing away: When a class gets a method, all trees with a step 'm' are thrown away");
-        Tracewheel x = Bench.machine(2, "1: l0 i2 % z7 n0 m0 d l0 i1 - u s0 z14 j0 l0 r", LOOP, "1: i5 r");
+        Tracewheel x = Bench.machine(2, "1: l0 i2 % z7 n0 m0 d l0 i1 - u s0 z14 j0 l0 r", LOOP, "1: i5 r", "2:");
         x.setMethod(0, 0, 2);
         x.run(0, 19);
         x.run(1, 9);
         Bench.due("trees", Bench.there(x) + " " + x.rootOf(1) + " " + x.rootOf(2), "111 0 2");
-        Bench.fails("a method that is refused", UnsupportedOperationException.class, () -> {
-            x.addFunction(2);
-            return x.setMethod(0, 0, 3);
-        });
+        Bench.fails("a method that is refused", UnsupportedOperationException.class, () -> x.setMethod(0, 0, 3));
         Bench.due("trees still", Bench.there(x), "111");
         Bench.due("another class, another name", x.setMethod(1, 5, 2) + " " + Bench.there(x), "1 001");
         Bench.due("none is left", x.setMethod(0, 0, 2) + " " + Bench.there(x), "0 001");
